@@ -149,16 +149,13 @@ public final class BoardMachine {
         }
 
         int byteAt(int cell) {
-            return (int) (words[cell >> 3] >>> shift(cell)) & 255;
+            return (int) (words[cell >> 3] >>> 8 * (cell & 7)) & 255;
         }
 
         void store(int cell, int value) {
-            long others = words[cell >> 3] & ~(255L << shift(cell));
-            words[cell >> 3] = others | (long) value << shift(cell);
-        }
-
-        private static int shift(int cell) {
-            return (cell & 7) << 3;
+            int shift = 8 * (cell & 7);
+            long others = words[cell >> 3] & ~(255L << shift);
+            words[cell >> 3] = others | (long) value << shift;
         }
     }
 

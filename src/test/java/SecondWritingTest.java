@@ -2,8 +2,10 @@ import java.util.Random;
 
 /** Promises 1 to 15: the class and the second writing of the document answer alike in many runs of calls. */
 public final class SecondWritingTest {
-    private static final int RUNS = 1000;
-    private static final int CALLS = 120;
+    private static final int RUNS = 6000;
+    // With the questions behind each, and the loads ahead, no object sees more than its 512 calls.
+    private static final int CALLS = 110;
+    private static final int QUESTIONS = 3;
     private static final int[] DEVICES = {
         0xA004, 0xA005, 0xA006, 0xA007, 0xA008, 0xA009, 0xA00B, 0xA00D, 0xA00E,
         0xA010, 0xA011, 0xA012, 0xA020, 0x8000, 0x9FFF, 0xA000, 0xA00F, 0xA013, 0xBFFF,
@@ -58,7 +60,9 @@ public final class SecondWritingTest {
         model.reset();
         for (int i = 0; i < CALLS; i++) {
             call();
-            compare("run " + seed + " call " + i);
+            for (int k = 0; k < QUESTIONS; k++) {
+                ask("run " + seed + " call " + i);
+            }
         }
     }
 
@@ -131,30 +135,56 @@ public final class SecondWritingTest {
         Check.due("step()", machine.step(), model.step());
     }
 
+    private void ask(String where) {
+        switch (random.nextInt(6)) {
+            case 0 -> register(where, random.nextInt(8) - 1);
+            case 1, 2 -> count(where, random.nextInt(17) - 1);
+            case 3 -> trace(where, random.nextInt(34) - 1);
+            case 4 -> look(where, random.nextBoolean() ? model.lastWritten : address());
+            default -> sent(where, random.nextInt(model.gone.size() + 2) - 1);
+        }
+    }
+
     private void compare(String where) {
         for (int i = -1; i <= 6; i++) {
-            Check.due(where + ": register(" + i + ")", machine.register(i), model.register(i));
+            register(where, i);
         }
         for (int i = -1; i <= 15; i++) {
-            Check.due(where + ": count(" + i + ")", machine.count(i), model.count(i));
+            count(where, i);
         }
         for (int i = -1; i <= 32; i++) {
-            Check.due(where + ": trace(" + i + ")", machine.trace(i), model.trace(i));
+            trace(where, i);
         }
         for (int at : DEVICES) {
-            Check.due(where + ": look(" + at + ")", machine.look(at), model.look(at));
+            look(where, at);
+        }
+        for (int i = -4; i < 5; i++) {
+            look(where, 256 + (model.s + i & 255));
         }
         for (int i = 0; i < 16; i++) {
-            int at = address();
-            Check.due(where + ": look(" + at + ")", machine.look(at), model.look(at));
-            int stack = 256 + (model.s + i & 255);
-            Check.due(where + ": look(" + stack + ")", machine.look(stack), model.look(stack));
+            look(where, address());
         }
-        int written = model.lastWritten;
-        Check.due(where + ": look(" + written + ")", machine.look(written), model.look(written));
-        int last = model.gone.size();
-        for (int i : new int[] {-1, 0, last - 257, last - 256, last - 1, last}) {
-            Check.due(where + ": sent(" + i + ")", machine.sent(i), model.sent(i));
-        }
+        look(where, model.lastWritten);
+        sent(where, 0);
+    }
+
+    private void register(String where, int i) {
+        Check.due(where + ": register(" + i + ")", machine.register(i), model.register(i));
+    }
+
+    private void count(String where, int what) {
+        Check.due(where + ": count(" + what + ")", machine.count(what), model.count(what));
+    }
+
+    private void trace(String where, int i) {
+        Check.due(where + ": trace(" + i + ")", machine.trace(i), model.trace(i));
+    }
+
+    private void look(String where, int at) {
+        Check.due(where + ": look(" + at + ")", machine.look(at), model.look(at));
+    }
+
+    private void sent(String where, int i) {
+        Check.due(where + ": sent(" + i + ")", machine.sent(i), model.sent(i));
     }
 }
