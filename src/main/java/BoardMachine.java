@@ -792,7 +792,8 @@ public final class BoardMachine {
                 case Codes.FLAGGING -> changeState(operation);
                 case Codes.STACKING -> pushOrPull(operation);
                 case Codes.BRANCHING -> branch(operation, code >> 4 & 7, operand);
-                default -> jump(operation, at);
+                case Codes.JUMPING -> jump(operation, at);
+                default -> { }
             }
         }
 

@@ -116,6 +116,8 @@ public final class ArithmeticTest {
         due("0xFF + 0xFF + 1: s is 0x1F5, then 0x255", 0x55, D | C);
         two(0x69, 0x00, 0x9A, D);
         due("0x9A + 0: s is 0xA0, then 0x100", 0x00, D | C | Z);
+        two(0x69, 0x0A, 0x8F, D);
+        due("0x8F + 0x0A: l is 0x1F, s is 0x9F, not above it", 0x9F, D | N);
         two(0xE9, 0x01, 0x00, D | C);
         due("0x00 - 0x01", 0x99, D | N);
         two(0xE9, 0x12, 0x46, D | C);
@@ -143,7 +145,7 @@ public final class ArithmeticTest {
                 two(0x89, it, a, N | V);
                 due("BIT IMM of " + a + ", " + it, a, N | V | ((a & it) == 0 ? Z : 0));
                 m.load(0x10, it, 1);
-                two(0x24, 0x10, a, C);
+                two(0x24, 0x10, a, it % 2 == 0 ? C : C | N | V | Z);
                 due("BIT of " + a + ", " + it, a, C | it & (N | V) | ((a & it) == 0 ? Z : 0));
             }
         }

@@ -89,6 +89,9 @@ public final class CodesTest {
         BoardMachine m = prepared(0x7D, 0x10, 0x02, 0xFF);
         m.set(Check.P, 8);
         Check.due("decimal and crossing", m.step(), 6);
+        m.set(Check.PC, 0xC010);
+        m.load(0xC010, 0xA510, 2);
+        Check.due("crossing is forgotten by the next step", m.step(), 3);
         BoardMachine n = prepared(0x09, 0x10, 0x02, 0xFF);
         n.set(Check.P, 8);
         Check.due("ORA in decimal", n.step(), 2);

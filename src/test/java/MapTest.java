@@ -26,6 +26,17 @@ public final class MapTest {
             write(m, at, 0x5A);
             Check.due("written in vain at " + at, m.look(at), 0);
         }
+        write(m, 0xA012, 0x5B);
+        Check.due("0xA013 is no command", m.look(0xA013), 0);
+        write(m, 0xA013, 0x5A);
+        Check.due("nor written as one", m.look(0xA012), 0x5B);
+        write(m, 0xA000, 0x5A);
+        Check.due("0xA000 is no memory", m.look(0xA000), 0);
+        for (int k = 3; k >= 1; k--) {
+            write(m, 0xA020, k);
+            Check.due("nor that of bank " + k, m.look(0x8000), 0);
+        }
+        write(m, 0xA020, 0);
         Check.due("bank", m.count(4), 0);
         Check.due("bytes sent", m.count(2), 0);
     }

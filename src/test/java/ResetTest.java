@@ -50,14 +50,18 @@ public final class ResetTest {
     }
 
     private static void notArmed() {
-        // Counter 2 armed, then a reset: behind 65536 cycles no bit of IFR comes.
-        BoardMachine m = Check.with(0x9C, 0x09, 0xA0, 0x9C, 0x05, 0xA0, 0xDB);
-        m.step();
+        // Both counters armed, far from 0, then a reset: behind 65536 cycles no bit of IFR comes.
+        BoardMachine m = Check.with(0xA9, 0x99, 0x8D, 0x08, 0xA0, 0x8D, 0x05, 0xA0, 0x8D, 0x09, 0xA0);
+        Check.steps(m, 4);
         m.load(0xC000, 0x80FE, 2);
         m.reset();
         m.run(30000);
         Check.due("counter 1 went round", m.count(5), 65535 - 90000 + 65536);
         Check.due("IFR of counters that are not armed", m.count(8), 0);
+        m.load(0xC000, 0x9C09A0, 3);
+        m.reset();
+        m.step();
+        Check.due("the lower byte of latch 2 was made 0", m.count(6), 65535 - 3);
     }
 
     private static void states() {
