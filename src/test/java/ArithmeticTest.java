@@ -26,7 +26,7 @@ public final class ArithmeticTest {
     /** A new object now and then: of one, 512 calls are promised. */
     private static void renew() {
         rounds++;
-        if (rounds % 8 == 0) {
+        if (rounds % 4 == 0) {
             m = new BoardMachine();
         }
     }
