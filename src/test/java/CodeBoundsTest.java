@@ -32,6 +32,7 @@ public final class CodeBoundsTest {
         Check.sentence("RMB 0x07 + 0x10 * k, SMB 0x87 + 0x10 * k, k 0 .. 7, ZP, 5: bit k becomes 0, 1",
                 CodeBoundsTest::bits);
         Check.sentence("(set N, Z by what the register becomes), TXS 9A", CodeBoundsTest::moves);
+        Check.sentence("Of one byte, 2 cycles", CodeBoundsTest::oneByte);
         Check.sentence("All other codes do nothing", CodeBoundsTest::doingNothing);
         Check.sentence("those that end with 3 or B (but CB, DB): one, 1", CodeBoundsTest::oneCycle);
         Check.end();
@@ -378,6 +379,8 @@ public final class CodeBoundsTest {
     private static void changesBit(int code, int v, int to, int p) {
         BoardMachine m = Check.at(0x200, code, 0xFF);
         m.load(0xFF, v, 1);
+        m.set(Check.X, 0x77);
+        m.set(Check.Y, 0x77);
         m.set(Check.P, p);
         Check.due("cycles of " + code, m.step(), 5);
         Check.due("the byte behind " + code + " of " + v, m.look(0xFF), to);
@@ -404,8 +407,40 @@ public final class CodeBoundsTest {
         }
     }
 
+    private static void oneByte() {
+        int[] codes = {0xE8, 0xC8, 0xCA, 0x88, 0xAA, 0xA8, 0x8A, 0x98, 0xBA, 0x9A, 0x18, 0x38, 0x58, 0x78, 0xB8, 0xD8, 0xF8,
+            0xEA, 0x0A, 0x2A, 0x4A, 0x6A, 0x1A, 0x3A};
+        for (int code : codes) {
+            for (int start : new int[] {0xFFFE, 0xFFFF}) {
+                BoardMachine m = Check.at(start, code);
+                Check.due("cycles of " + code, m.step(), 2);
+                Check.due("PC behind " + code + " at " + start, m.register(Check.PC), start + 1 & 0xFFFF);
+            }
+        }
+        int[][] stack = {{0x48, 3}, {0xDA, 3}, {0x5A, 3}, {0x08, 3}, {0x68, 4}, {0xFA, 4}, {0x7A, 4}, {0x28, 4}};
+        for (int[] code : stack) {
+            BoardMachine m = Check.at(0xFFFF, code[0]);
+            Check.due("cycles of " + code[0], m.step(), code[1]);
+            Check.due("PC behind " + code[0] + " at 65535", m.register(Check.PC), 0);
+        }
+        // A flag alone changes, from either state.
+        int[][] flags = {{0x18, C, 0}, {0x38, C, C}, {0x58, 4, 0}, {0x78, 4, 4}, {0xB8, V, 0}, {0xD8, D, 0}, {0xF8, D, D}};
+        for (int[] code : flags) {
+            for (int p : new int[] {0, code[1], 255 - code[1], 255}) {
+                BoardMachine m = Check.at(0x300, code[0]);
+                m.set(Check.P, p);
+                m.step();
+                Check.due("P " + p + " behind " + code[0], m.register(Check.P), p & ~code[1] | code[2] | 48);
+            }
+        }
+    }
+
     private static void doesNothing(int code, int bytes, int cycles) {
         BoardMachine m = Check.at(0x7FFF, code, 0x10, 0xA0);
+        int[] places = {0x00, 0x0F, 0x10, 0x11, 0x13F, 0x140, 0x141};
+        for (int at : places) {
+            m.load(at, 0x5A, 1);
+        }
         m.receive(7);
         m.set(Check.A, 0x81);
         m.set(Check.X, 0xFF);
@@ -424,8 +459,8 @@ public final class CodeBoundsTest {
         Check.due("steps behind " + code, m.count(1), 1);
         Check.due("trace behind " + code, m.trace(0), 0x7FFF);
         Check.due("counter 1 behind " + code, m.count(5), 65535 - cycles);
-        for (int at : new int[] {0x00, 0x0F, 0x10, 0x11, 0x140, 0x13F}) {
-            Check.due("look at " + at + " behind " + code, m.look(at), 0);
+        for (int at : places) {
+            Check.due("look at " + at + " behind " + code, m.look(at), 0x5A);
         }
     }
 

@@ -151,6 +151,8 @@ public final class FlowBoundsTest {
         bitBranch(0x8F, 1, 0xFFF0, 0x40, 0x0C, 0xFFFF, 6);
         bitBranch(0x8F, 1, 0xFFF0, 0x40, 0x0D, 0x0000, 7);
         bitBranch(0x0F, 0, 0x0010, 0x40, 0x80, 0xFF93, 7);
+        bitBranch(0x0F, 0, 0x1200, 0xFF, 0x10, 0x1213, 6);
+        bitBranch(0x0F, 1, 0x1200, 0xFF, 0x10, 0x1203, 5);
     }
 
     private static void jump(int code, int w, int x, int from, int cycles) {
@@ -164,6 +166,8 @@ public final class FlowBoundsTest {
 
     private static void jumps() {
         BoardMachine m = Check.at(0x200, 0x4C, 0xFF, 0xFF);
+        m.set(Check.X, 0x77);
+        m.set(Check.Y, 0x77);
         Check.due("JMP 65535", m.step(), 3);
         Check.due("PC", m.register(Check.PC), 65535);
         jump(0x6C, 0x30FE, 0x77, 0x30FE, 6);
@@ -182,6 +186,8 @@ public final class FlowBoundsTest {
         for (int start : new int[] {0x0300, 0x12FC, 0x12FD, 0x12FE, 0xFFFC, 0xFFFD, 0xFFFE, 0xFFFF}) {
             for (int s : new int[] {255, 1, 0}) {
                 BoardMachine m = Check.at(start, 0x20, 0x34, 0x56);
+                m.set(Check.X, 0x77);
+                m.set(Check.Y, 0x77);
                 m.set(Check.S, s);
                 Check.due("JSR at " + start, m.step(), 6);
                 Check.due("PC", m.register(Check.PC), 0x5634);

@@ -65,6 +65,10 @@ public final class MapBoundsTest {
             holdsNot(m, at, 0);
         }
         Check.due("0x9FFF beside them", m.look(0x9FFF), 0x61);
+        for (int k = 3; k >= 0; k--) {
+            Check.write(m, 0xA020, k);
+            Check.due("0x8000 of bank " + k, m.look(0x8000), 0);
+        }
         Check.write(m, 0xA00E, 0x83);
         Check.due("0xA00E is IER", m.look(0xA00E), 0x83);
         // 16 registers, and no 17th that would be the first again.

@@ -63,7 +63,9 @@ public final class ModeBoundsTest {
         Check.due("a code of three bytes reads b", readsB(0x5C), true);
         Check.due("a branch that is not taken reads b", readsB(0xB0), true);
         Check.due("BRK reads no b", readsB(0x00), false);
-        Check.due("WAI reads no b", readsB(0xCB), false);
+        for (int code : new int[] {0xCB, 0x40, 0x60, 0x48, 0x18, 0x0A}) {
+            Check.due("code " + code + " of one byte reads no b", readsB(code), false);
+        }
         // A byte that is written by the instruction over itself is read before.
         BoardMachine over = Check.at(0x41, 0x85, 0x42);
         over.set(Check.A, 0x99);
@@ -213,6 +215,24 @@ public final class ModeBoundsTest {
             reads("LDA AX " + name, indexed(row[1], 0, 0xBD, low, high), row[2], 4 + row[3]);
             reads("LDA AY " + name, indexed(0, row[1], 0xB9, low, high), row[2], 4 + row[3]);
         }
+        for (int code : new int[] {0x1D, 0x3D, 0x5D, 0x7D, 0xBD, 0xDD, 0xFD, 0xBC, 0x3C}) {
+            Check.due("code " + code + ", not crossing", indexed(0x0F, 0x10, code, 0xF0, 0x12).step(), 4);
+            Check.due("code " + code + ", crossing", indexed(0x10, 0x0F, code, 0xF0, 0x12).step(), 5);
+        }
+        for (int code : new int[] {0x19, 0x39, 0x59, 0x79, 0xB9, 0xD9, 0xF9, 0xBE}) {
+            Check.due("code " + code + ", not crossing", indexed(0x10, 0x0F, code, 0xF0, 0x12).step(), 4);
+            Check.due("code " + code + ", crossing", indexed(0x0F, 0x10, code, 0xF0, 0x12).step(), 5);
+        }
+        crossingIsForgotten();
+    }
+
+    /** A step that took the cycle more leaves none for the next. */
+    private static void crossingIsForgotten() {
+        BoardMachine m = indexed(0x10, 0, 0xBD, 0xF0, 0x12, 0xA5, 0x40, 0xAD, 0x40, 0x00, 0xA9, 0x01);
+        int[] want = {5, 3, 4, 2};
+        for (int cycles : want) {
+            Check.due("cycles of one step behind another", m.step(), cycles);
+        }
     }
 
     private static void indexedIndirect() {
@@ -241,6 +261,13 @@ public final class ModeBoundsTest {
             m.load(0x40, row[0] & 255, 1);
             m.load(0x41, row[0] >> 8, 1);
             reads("LDA IY " + row[0] + " + " + row[1], m, row[2], 5 + row[3]);
+        }
+        for (int code : new int[] {0x11, 0x31, 0x51, 0x71, 0xB1, 0xD1, 0xF1}) {
+            for (int y : new int[] {0x0F, 0x10}) {
+                BoardMachine m = indexed(0, y, code, 0x40);
+                m.load(0x40, 0xF012, 2);
+                Check.due("code " + code + " with Y " + y, m.step(), y == 0x10 ? 6 : 5);
+            }
         }
     }
 

@@ -39,12 +39,12 @@ public final class TimerBoundsTest {
 
     private static void registers() {
         BoardMachine m = new BoardMachine();
-        Check.write(m, T + 6, 0x34);
-        Check.write(m, T + 7, 0x12);
+        Check.write(m, T + 6, 0x35);
+        Check.write(m, T + 7, 0x13);
         Check.write(m, T + 11, 0xBF);
         Check.write(m, T + 14, 0x95);
         long one = m.count(5);
-        int[] want = {0, 0, 0, 0, (int) one & 255, (int) one >> 8, 0x34, 0x12, (int) one & 255, (int) one >> 8,
+        int[] want = {0, 0, 0, 0, (int) one & 255, (int) one >> 8, 0x35, 0x13, (int) one & 255, (int) one >> 8,
             0, 0xBF, 0, 0, 0x95, 0};
         for (int i = 0; i < 16; i++) {
             Check.due("look of register " + i, m.look(T + i), want[i]);
@@ -54,8 +54,8 @@ public final class TimerBoundsTest {
         Check.due("register 4 read, four cycles on", Check.read(m, T + 4), (int) one - 4 & 255);
         Check.due("register 8 read", Check.read(m, T + 8), (int) one - 8 & 255);
         Check.due("register 11 read", Check.read(m, T + 11), 0xBF);
-        Check.due("register 6 read", Check.read(m, T + 6), 0x34);
-        Check.due("register 7 read", Check.read(m, T + 7), 0x12);
+        Check.due("register 6 read", Check.read(m, T + 6), 0x35);
+        Check.due("register 7 read", Check.read(m, T + 7), 0x13);
         Check.due("register 14 read", Check.read(m, T + 14), 0x95);
     }
 
@@ -103,6 +103,8 @@ public final class TimerBoundsTest {
                 BoardMachine n = flagged();
                 Check.write(n, T + lower, v);
                 Check.due("IFR behind writing " + lower, n.count(8), 96);
+                Check.write(n, T + lower, 255 - v);
+                Check.due("latch 1 behind writing " + lower + " again", n.count(7), 255 - v);
             }
         }
     }
