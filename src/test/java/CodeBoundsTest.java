@@ -436,6 +436,11 @@ public final class CodeBoundsTest {
     }
 
     private static void doesNothing(int code, int bytes, int cycles) {
+        doesNothing(code, bytes, cycles, 0xCB);
+        doesNothing(code, bytes, cycles, 0x04);
+    }
+
+    private static void doesNothing(int code, int bytes, int cycles, int p) {
         BoardMachine m = Check.at(0x7FFF, code, 0x10, 0xA0);
         int[] places = {0x00, 0x0F, 0x10, 0x11, 0x13F, 0x140, 0x141};
         for (int at : places) {
@@ -446,9 +451,9 @@ public final class CodeBoundsTest {
         m.set(Check.X, 0xFF);
         m.set(Check.Y, 0xFF);
         m.set(Check.S, 0x40);
-        m.set(Check.P, 0xCB);
+        m.set(Check.P, p);
         Check.due("cycles of " + code, m.step(), cycles);
-        int[] want = {0x81, 0xFF, 0xFF, 0x40, 0xCB | 48, 0x7FFF + bytes};
+        int[] want = {0x81, 0xFF, 0xFF, 0x40, p | 48, 0x7FFF + bytes};
         for (int i = 0; i < 6; i++) {
             Check.due("register(" + i + ") behind " + code, m.register(i), want[i]);
         }
