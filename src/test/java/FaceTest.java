@@ -42,8 +42,33 @@ public final class FaceTest {
             int open = inside.getModifiers() & (Modifier.PUBLIC | Modifier.PROTECTED);
             Check.due(inside.getName() + " is public or protected", open, 0);
             Check.due(inside.getName() + " is static", Modifier.isStatic(inside.getModifiers()), true);
+            members(inside);
         }
+        members(type);
+        Check.due("some twelve classes", 1 + type.getDeclaredClasses().length <= 12, true);
         Check.end();
+    }
+
+    /** What can be seen here of the rules 1, 5, 6 and 11 of LANGUAGE.md. */
+    private static void members(Class<?> type) {
+        int fields = 0;
+        for (Field field : type.getDeclaredFields()) {
+            boolean constant = Modifier.isStatic(field.getModifiers());
+            fields += constant ? 0 : 1;
+            Check.due(type.getName() + "." + field.getName() + " is static and not final",
+                    constant && !Modifier.isFinal(field.getModifiers()), false);
+        }
+        Check.due(type.getName() + " has " + fields + " fields, some twenty", fields <= 20, true);
+        for (Method method : type.getDeclaredMethods()) {
+            String name = type.getName() + "." + method.getName();
+            boolean open = type == BoardMachine.class && Modifier.isPublic(method.getModifiers());
+            boolean faceName = FACE.stream().anyMatch(line -> line.contains(" " + method.getName() + "("));
+            Check.due(name + " bears a name of the face", faceName, open);
+            Check.due(name + " has at most seven parameters", method.getParameterCount() <= 7, true);
+        }
+        for (Constructor<?> constructor : type.getDeclaredConstructors()) {
+            Check.due(type.getName() + "'s constructor throws", constructor.getExceptionTypes().length, 0);
+        }
     }
 
     private static void methods(Class<?> type) {
